@@ -1,0 +1,67 @@
+/** A journal under test: texts are fed as tapes, and answers that are not due are printed and counted. */
+final class Trial {
+  final GroupJournal of = new GroupJournal();
+  private final String name;
+  private static int wrong = 0;
+  private static int asked = 0;
+
+  Trial(String name) {
+    this.name = name;
+  }
+
+  /** A trial whose journal has been told a text. */
+  static Trial told(String name, String text) {
+    Trial trial = new Trial(name);
+    trial.tape(text);
+    trial.holds("journal() of " + text, trial.of.journal() > 0);
+    return trial;
+  }
+
+  /** Lays a text on the tape, which must be empty. */
+  void tape(String text) {
+    int[] octets = new int[text.length()];
+    for (int i = 0; i < octets.length; i++) {
+      octets[i] = text.charAt(i);
+    }
+    tape(octets);
+  }
+
+  void tape(int... octets) {
+    for (int at = 0; at < octets.length; at += 20) {
+      of.feed(word(octets, at), word(octets, at + 4), word(octets, at + 8), word(octets, at + 12), word(octets, at + 16));
+    }
+    due("end(" + octets.length + ")", of.end(octets.length), true);
+  }
+
+  private static int word(int[] octets, int at) {
+    int word = 0;
+    for (int i = 0; i < 4; i++) {
+      word = word << 8 | (at + i < octets.length ? octets[at + i] & 255 : 32);
+    }
+    return word;
+  }
+
+  void due(String call, long got, long want) {
+    asked++;
+    if (got != want) {
+      wrong++;
+      System.out.println(name + ": " + call + " answered " + got + ", due is " + want);
+    }
+  }
+
+  void due(String call, boolean got, boolean want) {
+    due(call, got ? 1 : 0, want ? 1 : 0);
+  }
+
+  void holds(String what, boolean holds) {
+    due(what, holds, true);
+  }
+
+  /** Ends the test's program: by 1, if an answer was not the one that is due. */
+  static void close() {
+    System.out.println(wrong + " of " + asked + " answers are not as due");
+    if (wrong != 0 || asked == 0) {
+      System.exit(1);
+    }
+  }
+}
