@@ -15,6 +15,11 @@ public final class GroupJournal {
   private static final int HEAD = 5;
   private static final int FRAME = 4;
   private static final int PAYLOAD_LEAST = 3;
+  // The kinds of frames.
+  private static final int ONLY = 1;
+  private static final int BEGINS = 2;
+  private static final int GOES_ON = 3;
+  private static final int ENDS = 4;
   private static final int KEYS = 16;
   private static final int VALUES = 1000;
   private static final int SIZES = 41;
@@ -1012,14 +1017,14 @@ public final class GroupJournal {
 
     /** The next byte that is no blank; NONE at the text's end. */
     private int peek() {
-      while (at < length && (octetAt(at) == ' ' || octetAt(at) == 10)) {
+      while (at >= 0 && at < length && at < text.length && (text[at] == ' ' || text[at] == 10)) {
         at++;
       }
-      return octetAt(at);
+      return at >= 0 && at < length && at < text.length ? text[at] : NONE;
     }
 
     private int octetAt(int place) {
-      return place < length ? cell(text, place) : NONE;
+      return place >= 0 && place < length && place < text.length ? text[place] : NONE;
     }
 
     private boolean sign(char wanted) {
@@ -1313,35 +1318,32 @@ public final class GroupJournal {
     }
 
     private int factNamed() {
+      boolean ofSegment = mode == QUESTION;
       if (word("tick")) {
         return TICK;
       }
-      if (mode == QUESTION) {
-        return factOfSegment();
-      }
-      if (word("records")) {
+      if (!ofSegment && word("records")) {
         return RECORDS;
       }
-      if (word("payload")) {
+      if (!ofSegment && word("payload")) {
         return PAYLOAD;
       }
       if (mode == CLOSES && word("age")) {
         return AGE;
       }
-      return mode == CLOSES && word("waiters") ? WAITER_COUNT : NONE;
-    }
-
-    private int factOfSegment() {
-      if (word("number")) {
+      if (mode == CLOSES && word("waiters")) {
+        return WAITER_COUNT;
+      }
+      if (ofSegment && word("number")) {
         return NUMBER;
       }
-      if (word("serial")) {
+      if (ofSegment && word("serial")) {
         return SERIAL;
       }
-      if (word("first")) {
+      if (ofSegment && word("first")) {
         return FIRST;
       }
-      return word("frames") ? FRAMES : NONE;
+      return ofSegment && word("frames") ? FRAMES : NONE;
     }
   }
 
@@ -1490,7 +1492,7 @@ public final class GroupJournal {
       }
       int kind = octetAt(segment, at + 1);
       int length = octetAt(segment, at + 2);
-      if (kind < 1 || kind > 4 || length < 1 || at + FRAME + length > end) {
+      if (kind < ONLY || kind > ENDS || length < 1 || at + FRAME + length > end) {
         return false;
       }
       int address = segment * size + at;
@@ -1546,7 +1548,7 @@ public final class GroupJournal {
 
     /** Whether the latest frame was the last one of a record. */
     boolean isLast() {
-      return kind == 1 || kind == 4;
+      return kind == ONLY || kind == ENDS;
     }
 
     /** How many right frames there are; 0 without a right head. */
@@ -1572,7 +1574,7 @@ public final class GroupJournal {
     }
 
     private boolean canBe(int next) {
-      return (next == 1 || next == 2) != inside;
+      return (next == ONLY || next == BEGINS) != inside;
     }
 
     private void takeOctet(int place, int octet) {
@@ -1987,18 +1989,18 @@ public final class GroupJournal {
         }
         at = start;
         int length = state.disk.frameLength(at, payload - from);
-        writeFrame(state, which, from, length);
+        boolean isLast = from + length == payload;
+        int kind = from == 0 ? (isLast ? ONLY : BEGINS) : (isLast ? ENDS : GOES_ON);
+        writeFrame(state, which, from, length, kind);
         at += FRAME + length;
         from += length;
       }
     }
 
-    private void writeFrame(State state, int which, int from, int length) {
+    private void writeFrame(State state, int which, int from, int length, int kind) {
       Flight flight = state.flight;
       Queue queue = state.queue;
       int address = segment * state.disk.size + at;
-      boolean isLast = from + length == queue.payloadAt(which);
-      int kind = from == 0 ? (isLast ? 1 : 2) : (isLast ? 4 : 3);
       int check = flight.count;
       flight.add(address, 0);
       flight.add(address + 1, kind);

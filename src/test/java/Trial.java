@@ -33,6 +33,42 @@ final class Trial {
     due("end(" + octets.length + ")", of.end(octets.length), true);
   }
 
+  /** THE CHECK of bytes, from a start on. */
+  static int check(int start, int[] octets, int from, int to) {
+    int check = start;
+    for (int i = from; i < to; i++) {
+      check = (3 * check + octets[i]) % 251;
+    }
+    return check;
+  }
+
+  /** All bytes of the latest image. */
+  int[] image() {
+    int[] octets = new int[of.image()];
+    for (int i = 0; i < octets.length; i++) {
+      octets[i] = of.octet(i);
+    }
+    return octets;
+  }
+
+  /** Lays an image on the tape, its last byte made right. */
+  void tapeImage(int[] image) {
+    image[image.length - 1] = check(139, image, 0, image.length - 1);
+    tape(image);
+  }
+
+  /** The bytes of a segment are these from one on. */
+  void octets(int segment, int from, int... wanted) {
+    for (int i = 0; i < wanted.length; i++) {
+      due("octetOf(" + segment + ", " + (from + i) + ")", of.octetOf(segment, from + i), wanted[i]);
+    }
+  }
+
+  long ask(String question) {
+    tape(question);
+    return of.ask();
+  }
+
   private static int word(int[] octets, int at) {
     int word = 0;
     for (int i = 0; i < 4; i++) {
