@@ -13,6 +13,8 @@ public final class ActsTest {
     flipping();
     undoing();
     undoneActs();
+    undoneWhole();
+    ages();
     seeding();
     Trial.close();
   }
@@ -116,6 +118,7 @@ public final class ActsTest {
     closesBy("not not 1=1", true);
     closesBy("0-7/2*2=0-6", true);
     closesBy("(0-7)/2=0-4", true);
+    closesBy("1<2 and 1=1 and 2>1", true);
     closesBy("7/0=0", true);
     closesBy("10-3-2=5", true);
     closesBy("100/10/5=2", true);
@@ -193,6 +196,26 @@ public final class ActsTest {
     t.due("chance(100)", t.of.chance(100), 0);
     t.due("has(11)", t.of.has(11), 1);
     t.due("value(1)", t.of.value(1), 1);
+
+    t = Trial.told("29 closes by its test", BASE + "closes age>1;takes 1;put 1 1 size 0;");
+    t.of.chance(2);
+    t.due("has(5)", t.of.has(5), 1);
+    t.of.chance(1);
+    t.due("has(5)", t.of.has(5), 0);
+
+    // a draw that is just the noise flips nothing
+    int seed = 0;
+    while (next(seed) / 64 % 100 != 40) {
+      seed++;
+    }
+    t = Trial.told("29 a draw of 40", text);
+    t.of.seed(seed);
+    t.due("chance(1)", t.of.chance(1), 0);
+    while (next(seed) / 64 % 100 != 39) {
+      seed++;
+    }
+    t.of.seed(seed);
+    t.due("chance(1)", t.of.chance(1), 1);
 
     // the flips ahead of a tick are written over by what arrives in it, and are scars no more
     t = Trial.told("29 a flip of what is on its way", BASE + "closes all;takes 1;put 1 1 size 16;put 1 1 size 16;");
@@ -297,15 +320,74 @@ public final class ActsTest {
     for (int[] step : steps) {
       t.due("undo()", t.of.undo(), true);
       if (step != null) {
-        int[] found = look(t);
-        for (int i = 0; i < found.length; i++) {
-          if (i != 13) {
-            t.due("cell " + i + " of what is seen then", found[i], step[i]);
-          }
-        }
+        same(t, step);
       }
     }
     t.due("undo()", t.of.undo(), false);
+  }
+
+  /** What is on its way, waits, is kept or counted as old comes back as it was. */
+  private static void undoneWhole() {
+    Trial t = Trial.told("34 what is on its way", "journal 3 blocks 3 bytes 32;closes age>0 or records>1;takes 2;"
+        + "put 1 10 size 3;put 2 20 size 1;");
+    t.of.waits(6, 1);
+    t.of.waits(2, 0);
+    t.of.ticks(1);
+    t.of.append(3, 30, 7);
+    int[] way = look(t);
+    t.due("waiting(0, 3)", t.of.waiting(0, 3), 7);
+    t.of.ticks(5);
+    t.of.append(4, 40, 9);
+    t.of.append(5, 50, 9);
+    t.of.waits(7, 4);
+    t.of.waits(1, 3);
+    t.of.ticks(3);
+    int[] later = look(t);
+    t.due("kept(2, 1)", t.of.kept(2, 1), 1);
+    t.due("kept(3, 1)", t.of.kept(3, 1), 7);
+    for (int i = 0; i < 6; i++) {
+      t.due("undo()", t.of.undo(), true);
+    }
+    same(t, way);
+    for (int what = 0; what < 4; what++) {
+      t.due("waiting(0, " + what + ")", t.of.waiting(0, what), new int[] {2, 3, 30, 7}[what]);
+    }
+    t.due("has(11)", t.of.has(11), 0);
+    t.of.ticks(2);
+    t.due("kept(0, 1)", t.of.kept(0, 1), 2);
+    t.due("kept(1, 1)", t.of.kept(1, 1), 6);
+    t.due("kept(1, 0)", t.of.kept(1, 0), 2);
+    t.due("value(1)", t.of.value(1), 10);
+    t.due("value(2)", t.of.value(2), 20);
+    t.due("frames", t.of.segment(0, 3), 2);
+    t.due("has(6), the one of age 1 following", t.of.has(6), 18);
+    t.of.ticks(3);
+    t.of.append(4, 40, 9);
+    t.of.append(5, 50, 9);
+    t.of.waits(7, 4);
+    t.of.waits(1, 3);
+    t.of.ticks(3);
+    same(t, later);
+  }
+
+  private static void same(Trial t, int[] wanted) {
+    int[] found = look(t);
+    for (int i = 0; i < found.length; i++) {
+      if (i != 13) {
+        t.due("cell " + i + " of what is seen", found[i], wanted[i]);
+      }
+    }
+  }
+
+  /** Those that wait behind a group grow older by themselves. */
+  private static void ages() {
+    Trial t = Trial.told("28 age behind a group", BASE + "closes tick=0 or age>2;takes 2;put 1 1 size 0;put 1 1 size 0;");
+    t.of.ticks(2);
+    t.of.append(1, 2, 0);
+    t.of.ticks(3);
+    t.due("has(5), of age 2 at tick 4", t.of.has(5), 1);
+    t.of.ticks(1);
+    t.due("has(5), of age 3 at tick 5", t.of.has(5), 0);
   }
 
   private static int[] look(Trial t) {

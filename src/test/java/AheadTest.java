@@ -117,6 +117,10 @@ public final class AheadTest {
     t.due("rule(2, 1)", t.of.rule(2, 1), 3 + 3 + 6 + 6 + 8);
     t.due("best(0), the first of like ones", t.of.best(0), 2);
     t.due("best(1)", t.of.best(1), 26);
+    t = Trial.told("18 each group as long", "journal 4 blocks 4 bytes 32;takes 9;" + "put 1 1 size 0;".repeat(8));
+    t.due("rule(7, 1)", t.of.rule(7, 1), 7 * 10 + 19);
+    t.due("best(0)", t.of.best(0), 8);
+    t.due("best(1)", t.of.best(1), 80);
     t = Trial.told("18 nothing waits", BASE);
     t.due("rule(1, 0)", t.of.rule(1, 0), 0);
     t.due("rule(8, 1)", t.of.rule(8, 1), 0);

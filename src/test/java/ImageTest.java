@@ -106,12 +106,18 @@ public final class ImageTest {
     other[3] = 254;
     t.tapeImage(other);
     t.due("on(), a value of 65534", t.of.on(), false);
+    other = image.clone();
+    other[32] = 3;
+    other[33] = 232;
+    t.tapeImage(other);
+    t.due("on(), a value of 1000 of key 15", t.of.on(), false);
+    other = image.clone();
     t.tapeImage(java.util.Arrays.copyOf(image, 98));
     t.due("on(), too short", t.of.on(), false);
     t.tapeImage(java.util.Arrays.copyOf(image, 100));
     t.due("on(), too long", t.of.on(), false);
     t.due("on(), nothing", t.of.on(), false);
-    t.due("status(6)", t.of.status(6), 6);
+    t.due("status(6)", t.of.status(6), 7);
     t.due("all stays: has(2)", t.of.has(2), 2);
     t.due("has(13)", t.of.has(13), 2);
     other[2] = 3;
@@ -158,6 +164,16 @@ public final class ImageTest {
     t.of.ticks(1);
     t.octets(1, 0, 2, 0, 0, 1);
     t.octets(1, 8, 0);
+
+    Trial.head(image, 0, 515, 0);
+    Trial.head(image, 32, 514, 0);
+    t.tapeImage(image);
+    t.due("on()", t.of.on(), true);
+    t.due("octet(34)", t.image()[34], 2);
+    t.of.append(0, 1, 16);
+    t.of.append(0, 2, 0);
+    t.of.ticks(1);
+    t.due("place(2)", t.of.place(2), 516);
 
     for (int i = 34; i < 98; i++) {
       image[i] = 0;

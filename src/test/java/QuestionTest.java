@@ -79,6 +79,18 @@ public final class QuestionTest {
     due(t, "total octet 127", 0);
     t.of.flip(3, 127);
     due(t, "total octet 127", 255);
+    t.tape("journal 4 blocks 2 bytes 16;put 1 11 size 0;put 15 150 size 0;closes all;takes 1;");
+    t.of.journal();
+    due(t, "total octet 127", 0);
+    due(t, "total octet 31", 0);
+    t.of.ticks(2);
+    due(t, "total value 1 + value 15", 4 * 161);
+    t.of.flip(0, 0);
+    due(t, "total value 16", 0);
+    due(t, "total value (0-1)", 0);
+    for (int i = 0; i < 100; i++) {
+      t.due("ask() again", t.ask("most number + 1 * 2"), 5);
+    }
     due(t, "often number*number=number", 2);
     due(t, "often 1=1 and number>0 or number=0", 4);
   }

@@ -10,6 +10,9 @@ public final class RecoveryTest {
     withoutGround();
     lessThanTheSnap();
     nextSegments();
+    whereItBegins();
+    givenUpAlone();
+    greatestFlight();
     staleFrames();
     strangeFrames();
     crashes();
@@ -209,6 +212,116 @@ public final class RecoveryTest {
     t.due("place(0)", t.of.place(0), 0);
   }
 
+  /** Four segments of 32 bytes, their serials, first numbers and a record each with the key of the segment. */
+  private static Trial fourHeads(String name, int snap, int[] serials, int[] firsts) {
+    Trial t = Trial.told(name, "journal 4 blocks 2 bytes 16;closes all;takes 1;");
+    int[] image = t.image();
+    image[0] = snap >> 8;
+    image[1] = snap & 255;
+    for (int i = 0; i < 4; i++) {
+      if (serials[i] > 0) {
+        Trial.head(image, 32 * i, serials[i], firsts[i]);
+        Trial.frame(image, 32 * i + 5, serials[i], i, 500 + i);
+      } else {
+        java.util.Arrays.fill(image, 34 + 32 * i, 34 + 32 * i + 5, 7);
+      }
+    }
+    t.tapeImage(image);
+    t.due("on()", t.of.on(), true);
+    return t;
+  }
+
+  private static void recovered(Trial t, int next, int segment, int at, int serial, int halted) {
+    t.due("has(3)", t.of.has(3), next);
+    t.due("place(0)", t.of.place(0), segment);
+    t.due("place(1)", t.of.place(1), at);
+    t.due("place(2)", t.of.place(2), serial);
+    t.due("has(14)", t.of.has(14), halted);
+  }
+
+  private static void whereItBegins() {
+    Trial t = fourHeads("21 the greatest serial of those no greater than the snap", 5, new int[] {300, 301, 299, 302},
+        new int[] {4, 5, 5, 6});
+    recovered(t, 7, 3, 12, 302, 0);
+    t.due("value(0)", t.of.value(0), -1);
+    t.due("value(1)", t.of.value(1), 501);
+    t.due("value(2)", t.of.value(2), -1);
+    t.due("recovers(0, 4)", t.of.recovers(0, 4), 2);
+    t = fourHeads("21 the first of like ones", 5, new int[] {300, 301, 301, 301}, new int[] {4, 5, 5, 5});
+    recovered(t, 6, 1, 12, 301, 0);
+    t = fourHeads("21 all four, back to the first", 0, new int[] {4, 1, 3, 2}, new int[] {3, 0, 2, 1});
+    recovered(t, 4, 0, 12, 4, 0);
+    t.due("recovers(0, 4)", t.of.recovers(0, 4), 4);
+    t.due("value(0)", t.of.value(0), 500);
+    t = fourHeads("21 the next of the greatest serial, of like ones the first", 0, new int[] {7, 2, 9, 9},
+        new int[] {1, 0, 1, 1});
+    recovered(t, 2, 2, 12, 9, 0);
+    t = fourHeads("21 none of a greater serial", 1, new int[] {7, 7, 6, 0}, new int[] {1, 2, 2, 0});
+    recovered(t, 2, 0, 12, 7, 0);
+    t = fourHeads("21 a next one of a number too great", 0, new int[] {7, 8, 6, 0}, new int[] {0, 2, 0, 0});
+    recovered(t, 1, 0, 12, 7, 1);
+    t = fourHeads("21 records below the snap leave the table as it is", 1, new int[] {1, 0, 0, 0}, new int[4]);
+    recovered(t, 1, 0, 12, 1, 0);
+    t.due("value(0)", t.of.value(0), -1);
+    t = fourHeads("21 key 0 counts", 0, new int[] {1, 0, 0, 0}, new int[4]);
+    t.due("recovers(0, 4)", t.of.recovers(0, 4), 1);
+  }
+
+  /** What is given up is what lies behind THE END and all of greater serials: the rest stays. */
+  private static void givenUpAlone() {
+    Trial t = fourHeads("32 giveUp", 0, new int[] {600, 700, 0, 600}, new int[] {0, 2, 0, 1});
+    recovered(t, 1, 0, 12, 600, 1);
+    t.of.flip(0, 12);
+    int count = 1;
+    for (int at = 0; at < 32; at++) {
+      count += t.of.octetOf(1, at) != 0 ? 1 : 0;
+    }
+    t.due("giveUp()", t.of.giveUp(), count);
+    recovered(t, 1, 0, 12, 600, 0);
+    t.octets(0, 0, 2, 88, 0, 0);
+    t.octets(0, 12, 0);
+    t.octets(1, 0, 0, 0, 0, 0, 0, 0);
+    t.octets(2, 0, 7, 7, 7, 7, 7);
+    t.octets(3, 0, 2, 88, 0, 1);
+    t.due("segment(3, 3)", t.of.segment(3, 3), 1);
+
+    t = fourHeads("32 giveUp without ground", 4660, new int[] {600, 0, 0, 0}, new int[] {4661, 0, 0, 0});
+    recovered(t, 4660, 0, 5, 0, 1);
+    t.due("giveUp()", t.of.giveUp() > 15, true);
+    recovered(t, 4660, 0, 5, 601, 0);
+    t.due("segment(0, 0)", t.of.segment(0, 0), 601);
+    t.due("segment(0, 1)", t.of.segment(0, 1), 4660);
+    t.octets(1, 0, 0, 0, 0, 0, 0);
+    t.of.append(1, 1, 16);
+    t.of.append(1, 1, 16);
+    t.of.ticks(2);
+    t.due("segment(1, 0)", t.of.segment(1, 0), 602);
+    t.due("segment(1, 1)", t.of.segment(1, 1), 4661);
+    t.due("frames of serial 602", t.of.segment(1, 3), 2);
+  }
+
+  /** Sixteen records on the greatest disk, four a segment: the fourth ends just at the end of its own. */
+  private static void greatestFlight() {
+    StringBuilder text = new StringBuilder("journal 4 blocks 4 bytes 32;closes all;takes 1;");
+    for (int i = 0; i < 16; i++) {
+      text.append("put 15 ").append(i == 2 ? 999 : i).append(" size ").append(i == 3 ? 27 : 20).append(';');
+    }
+    Trial t = Trial.told("24 the greatest disk", text.toString());
+    t.of.ticks(1);
+    int way = 123 + 3 * 121;
+    t.due("has(6)", t.of.has(6), way);
+    t.due("arrived(-1)", t.of.arrived(-1), way + 1);
+    t.due("arrived(" + way + ")", t.of.arrived(way), way);
+    t.due("tells(0)", t.of.tells(0), 15);
+    // from the third record on, 6 and 32 bytes have to arrive till the fourth is there
+    t.due("tells(1)", t.of.tells(1), 38);
+    int[] image = t.image();
+    t.due("image()", image.length, 547);
+    t.tapeImage(image);
+    t.due("on()", t.of.on(), true);
+    t.due("room(40)", t.of.room(40), 8);
+  }
+
   /** Behind a segment's new head lie frames of its former serial. */
   private static void staleFrames() {
     Trial t = Trial.told("21 stale frames", BASE);
@@ -245,23 +358,20 @@ public final class RecoveryTest {
     frameOf("payload beyond the block's end", 0, 0, 1, 8, 1, 0, 0, 0, 1, 2, 3, 4, 5);
     // one byte on, behind a byte that begins none: damage, whatever the kind and the record tell, but not kind 5
     frameOf("one behind", 0, 1, 99, 77, 1, 3, 1, 0, 0, 0);
+    frameOf("one right behind", 0, 1, 98, 1, 3, 1, 0, 0, 0);
     frameOf("one of kind 4 behind", 0, 1, 99, 77, 4, 1, 1, 200);
     frameOf("one of kind 5 behind", 0, 0, 99, 77, 5, 3, 1, 0, 0, 0);
     frameOf("one of another serial behind", 0, 0, 99, 77, 1, 3, 2, 0, 0, 0);
     frameOf("one without payload behind", 0, 0, 99, 77, 1, 0, 1);
   }
 
-  /** Segment 0 has these bytes behind its head, the first one of the last frame (at 5, behind 99, 77 at 7) told here. */
+  /** Segment 0 has a frame of these bytes, its check put ahead, at 5; told behind 98 at 6, behind 99 and 77 at 7. */
   private static void frameOf(String name, int read, int damaged, int... bytes) {
     Trial t = Trial.told("21 " + name, "journal 2 blocks 2 bytes 16;");
     int[] image = t.image();
-    boolean behind = bytes[0] == 99;
-    int at = behind ? 34 + 7 : 34 + 5;
-    int from = behind ? 2 : 0;
-    if (behind) {
-      image[39] = 99;
-      image[40] = 77;
-    }
+    int from = bytes[0] == 99 ? 2 : bytes[0] == 98 ? 1 : 0;
+    int at = 34 + 5 + from;
+    System.arraycopy(bytes, 0, image, 39, from);
     System.arraycopy(bytes, from, image, at + 1, bytes.length - from);
     image[at] = Trial.check(7, image, at + 1, at + 1 + bytes.length - from);
     t.tapeImage(image);
@@ -291,8 +401,8 @@ public final class RecoveryTest {
     t.due("flips(2)", t.of.flips(2), 59);
     t.of.ticks(2);
     // the first record's 7 bytes: the second stands behind them; the second's 7 bytes: it is lost
-    t.due("flips(0)", t.of.flips(0), 12);
     t.due("flips(1)", t.of.flips(1), 7);
+    t.due("flips(0)", t.of.flips(0), 12);
     t.due("flips(2)", t.of.flips(2), 45);
     t.due("flips(3)", t.of.flips(3), -1);
     t.due("flips(-1)", t.of.flips(-1), -1);

@@ -9,6 +9,8 @@ public final class SightTest {
     splitRecord();
     free();
     freeWhileLaid();
+    freeOfGroup();
+    leftOver();
     values();
     waitingRecords();
     waiters();
@@ -169,6 +171,41 @@ public final class SightTest {
     t.due("place(1)", t.of.place(1), 32);
     t.due("room(16)", t.of.room(16), 1);
     t.due("rule(1, 0): one after the other there is", t.of.rule(1, 0), 3);
+  }
+
+  /** The greatest of a group's records that lie in a segment counts. */
+  private static void freeOfGroup() {
+    Trial t = Trial.told("7 free, a group over segments", BASE + "closes all;takes 1;");
+    t.of.append(0, 1, 0);
+    t.of.append(0, 2, 2);
+    t.of.append(0, 3, 16);
+    t.of.ticks(1);
+    t.due("place(0)", t.of.place(0), 1);
+    t.due("on its way", t.of.segment(0, 2), 0);
+    t.of.ticks(1);
+    t.due("on the disk", t.of.segment(0, 2), 0);
+    t.of.append(0, 4, 0);
+    t.of.undo();
+    t.due("undone", t.of.segment(0, 2), 0);
+    t.of.snap();
+    t.due("below the snap", t.of.segment(0, 2), 1);
+    t.of.undo();
+    t.due("undone", t.of.segment(0, 2), 0);
+  }
+
+  /** Bytes left over behind a frame are written as 0 with the next one, not before. */
+  private static void leftOver() {
+    Trial t = Trial.told("9 bytes left over", BASE + "closes all;takes 1;put 1 1 size 0;");
+    t.of.flip(0, 12);
+    t.of.flip(0, 15);
+    t.of.ticks(2);
+    t.octets(0, 12, 255, 0, 0, 255);
+    t.of.append(1, 2, 0);
+    t.of.ticks(1);
+    t.due("has(6)", t.of.has(6), 11);
+    t.of.ticks(1);
+    t.octets(0, 12, 0, 0, 0, 0);
+    t.due("has(10)", t.of.has(10), 0);
   }
 
   private static void values() {

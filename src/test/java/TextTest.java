@@ -12,6 +12,7 @@ public final class TextTest {
     accepted();
     told();
     restarted();
+    nothingLeft();
     faultCalls();
     Trial.close();
   }
@@ -75,6 +76,7 @@ public final class TextTest {
     faulty(1, "^journals 2 blocks 2 bytes 16;");
     faulty(1, "journal^2 blocks 2 bytes 16;");
     faulty(1, "journal 2^blocks 2 bytes 16;");
+    faulty(1, BASE + "^gut 1 2 size 3;");
     faulty(1, BASE + "^Put 1 2 size 3;");
     faulty(1, BASE + "put 1 5 ^siz 0;");
     faulty(1, BASE + "closes 1>0^and 1>0;");
@@ -117,6 +119,7 @@ public final class TextTest {
     faulty(4, BASE + "closes [[[[[[^[");
     faulty(4, BASE + "closes not not not not not not ^not all;");
     faulty(4, BASE + "closes not not [[((max^(1");
+    faulty(4, BASE + "takes ((((((max  ^(1");
     faulty(4, BASE + "takes max(1,max(1,max(1,max(1,max(1,max(1,max^(");
     stands(2, BASE + "takes ((((((1)))))) + ((((((1))))));");
     stands(2, BASE + "closes not not not not not not all and not not not not not not all;");
@@ -140,6 +143,7 @@ public final class TextTest {
     stands(4, BASE + "noise 1;noise 2;noise 3;");
     stands(3, BASE + "closes tick+records*payload-age/waiters<min(1,2)and not[all or 1=2];takes tick+records-payload;");
     stands(3, BASE + "takes(1);closes[all];");
+    stands(2, BASE + "put 0 0 size 0;");
   }
 
   private static void told() {
@@ -199,6 +203,37 @@ public final class TextTest {
     t.octets(0, 0, 0, 1, 0, 0, 74, 0);
     t.octets(1, 0, 0, 0);
     t.due("recovers(0, 4), nothing in the snap", t.of.recovers(0, 4), 0);
+  }
+
+  /** Nothing of a text before, nor of one with a fault, is left in what is told. */
+  private static void nothingLeft() {
+    String full = BASE + "noise 100;closes all;takes 9;put 1 1 size 0;put 1 2 size 0;";
+    Trial t = Trial.told("4 one text behind the other", full);
+    t.tape(BASE + "closes tick>500;takes 3;noise 100;put 5 5 size 0;put 6");
+    t.due("journal() with a fault", t.of.journal(), -1);
+    t.due("chance(1), the noise staying", t.of.chance(1), 1);
+    t.due("has(7), closes and takes staying", t.of.has(7), 9);
+    for (int i = 0; i < 2; i++) {
+      t.tape(full);
+      t.due("journal()", t.of.journal(), 6);
+      t.tape(BASE + "put 7 7 size 7;");
+      t.due("journal()", t.of.journal(), 2);
+      t.due("has(5)", t.of.has(5), 1);
+      t.due("soon(1)", t.of.soon(1), -1);
+      t.due("chance(5), without noise", t.of.chance(5), 0);
+      t.due("has(6), without closes", t.of.has(6), 0);
+      t.of.ticks(1);
+      t.due("has(7), without takes", t.of.has(7), 1);
+    }
+
+    t = Trial.told("4 behind a halted one", BASE);
+    t.of.flip(0, 0);
+    t.of.crash(0);
+    t.due("has(14)", t.of.has(14), 1);
+    t.tape(BASE);
+    t.of.journal();
+    t.due("has(14)", t.of.has(14), 0);
+    t.due("append", t.of.append(1, 1, 1), 0);
   }
 
   private static void faultCalls() {

@@ -51,6 +51,20 @@ final class Trial {
     return octets;
   }
 
+  /** Puts a right head of a segment of so many bytes into an image. */
+  static void head(int[] image, int address, int serial, int number) {
+    int[] head = {serial >> 8, serial & 255, number >> 8, number & 255, 0};
+    head[4] = check(7, head, 0, 4);
+    System.arraycopy(head, 0, image, 34 + address, 5);
+  }
+
+  /** Puts a frame with a record of size 0 into an image, its check made right. */
+  static void frame(int[] image, int address, int serial, int key, int value) {
+    int[] frame = {0, 1, 3, serial & 255, key, value >> 8, value & 255};
+    frame[0] = check(7, frame, 1, 7);
+    System.arraycopy(frame, 0, image, 34 + address, 7);
+  }
+
   /** Lays an image on the tape, its last byte made right. */
   void tapeImage(int[] image) {
     image[image.length - 1] = check(139, image, 0, image.length - 1);
