@@ -994,10 +994,9 @@ public final class GroupJournal {
       if (asked == NONE) {
         return fail(NO_SUCH_TEXT, at);
       }
-      if (!formulaOf(question, QUESTION, asked <= ASK_OFTEN)) {
-        return false;
-      }
-      return peek() == NONE || fail(NO_SUCH_TEXT, at);
+      aim(question, QUESTION);
+      boolean stands = asked <= ASK_OFTEN ? test() : sum();
+      return stands && (peek() == NONE || fail(NO_SUCH_TEXT, at));
     }
 
     private void begin(int[] tape, int tapeLength) {
@@ -1043,17 +1042,12 @@ public final class GroupJournal {
       return octet >= '0' && octet <= '9';
     }
 
-    private int wordEnd() {
+    private boolean word(String wanted) {
+      peek();
       int end = at;
       while (end < length && octetAt(end) >= 'a' && octetAt(end) <= 'z') {
         end++;
       }
-      return end;
-    }
-
-    private boolean word(String wanted) {
-      peek();
-      int end = wordEnd();
       if (at == glued || end - at != wanted.length()) {
         return false;
       }
@@ -1126,14 +1120,16 @@ public final class GroupJournal {
           return fail(TOO_MANY, begin);
         }
         draft.hasCloses = true;
-        return formulaOf(draft.closes, CLOSES, true);
+        aim(draft.closes, CLOSES);
+        return test();
       }
       if (word("takes")) {
         if (draft.hasTakes) {
           return fail(TOO_MANY, begin);
         }
         draft.hasTakes = true;
-        return formulaOf(draft.takes, TAKES, false);
+        aim(draft.takes, TAKES);
+        return sum();
       }
       return fail(NO_SUCH_TEXT, begin);
     }
@@ -1174,12 +1170,12 @@ public final class GroupJournal {
       return word("least") ? ASK_LEAST : NONE;
     }
 
-    private boolean formulaOf(Formula target, int readFor, boolean isTest) {
+    /** What is read next goes into a formula. */
+    private void aim(Formula target, int readFor) {
       formula = target;
       formula.clear();
       mode = readFor;
       open = 0;
-      return isTest ? test() : sum();
     }
 
     /** One more of those that may stand open 6 at once. */
@@ -1227,16 +1223,9 @@ public final class GroupJournal {
         formula.emit(1);
         return true;
       }
-      return sum() && comparison();
-    }
-
-    private boolean negation(int begin) {
-      boolean stands = opens(begin) && fact() && ends();
-      formula.emit(NOT);
-      return stands;
-    }
-
-    private boolean comparison() {
+      if (!sum()) {
+        return false;
+      }
       int sign = peek();
       if (sign != '<' && sign != '>' && sign != '=') {
         return fail(NO_SUCH_TEXT, at);
@@ -1244,6 +1233,12 @@ public final class GroupJournal {
       at++;
       boolean stands = sum();
       formula.emit(sign == '<' ? LESS : sign == '>' ? MORE : LIKE);
+      return stands;
+    }
+
+    private boolean negation(int begin) {
+      boolean stands = opens(begin) && fact() && ends();
+      formula.emit(NOT);
       return stands;
     }
 
@@ -1515,13 +1510,12 @@ public final class GroupJournal {
     private int payload;
     private boolean inside;
 
-    /** Begins at a segment's head: whether that is right. */
-    boolean open(Disk disk, int which) {
+    /** Begins behind a segment's head. */
+    void open(Disk disk, int which) {
       segment = which;
       serial = disk.serialOf(which);
       at = HEAD;
       inside = false;
-      return disk.headStands(which);
     }
 
     /** Whether a right frame is next; then it is behind that. */
@@ -1553,9 +1547,10 @@ public final class GroupJournal {
 
     /** How many right frames there are; 0 without a right head. */
     int frameCount(Disk disk, int which) {
-      if (!open(disk, which)) {
+      if (!disk.headStands(which)) {
         return 0;
       }
+      open(disk, which);
       int count = 0;
       while (count < SEGMENT_BYTES && advance(disk)) {
         count++;

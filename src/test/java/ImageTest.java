@@ -64,10 +64,7 @@ public final class ImageTest {
     t.of.flip(1, 31);
     t.tapeImage(image);
     t.due("on()", t.of.on(), true);
-    int[] wanted = {2, 32, 0, 3, 3, 0, 0, 0, 2, 0, 0, 0, 0, 0, 0};
-    for (int what = 0; what < wanted.length; what++) {
-      t.due("has(" + what + ")", t.of.has(what), wanted[what]);
-    }
+    t.has(2, 32, 0, 3, 3, 0, 0, 0, 2, 0, 0, 0, 0, 0, 0);
     int[] values = {-1, 5, 6, 7, -1};
     for (int key = 0; key < values.length; key++) {
       t.due("value(" + key + ")", t.of.value(key), values[key]);
@@ -149,9 +146,7 @@ public final class ImageTest {
   private static void greatestSerial() {
     Trial t = Trial.told("39 the greatest serial", BASE);
     int[] image = t.image();
-    int[] head = {1, 255, 0, 9, 0};
-    head[4] = Trial.check(7, head, 0, 4);
-    System.arraycopy(head, 0, image, 66, 5);
+    Trial.head(image, 32, 511, 9);
     t.tapeImage(image);
     t.due("on()", t.of.on(), true);
     t.due("has(14), a greater serial", t.of.has(14), 1);
@@ -190,9 +185,7 @@ public final class ImageTest {
     int[] image = t.image();
     image[0] = 255;
     image[1] = 255;
-    int[] head = {0, 3, 255, 255, 0};
-    head[4] = Trial.check(7, head, 0, 4);
-    System.arraycopy(head, 0, image, 34, 5);
+    Trial.head(image, 0, 3, 65535);
     t.tapeImage(image);
     t.due("on()", t.of.on(), true);
     t.due("has(3)", t.of.has(3), 65535);

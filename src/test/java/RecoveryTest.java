@@ -55,10 +55,7 @@ public final class RecoveryTest {
     t.of.flip(0, 25);
     t.due("has(10)", t.of.has(10), 1);
     t.due("crash(15)", t.of.crash(15), 1);
-    int[] wanted = {2, 32, 1, 1, 1, 0, 0, 0, 0, 0, 0, 0, 0, 5, 0};
-    for (int what = 0; what < wanted.length; what++) {
-      t.due("has(" + what + ")", t.of.has(what), wanted[what]);
-    }
+    t.has(2, 32, 1, 1, 1, 0, 0, 0, 0, 0, 0, 0, 0, 5, 0);
     t.octets(0, 11, 5, 0, 0, 0, 0, 0, 0, 0, 0, 0, 0, 0, 0, 0, 0, 0);
     t.due("value(1)", t.of.value(1), 5);
     t.due("value(2)", t.of.value(2), -1);

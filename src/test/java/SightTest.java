@@ -32,17 +32,11 @@ public final class SightTest {
     t.of.flip(3, 50);
     t.of.flip(3, 49);
     // 7 bytes of the first one, 5 and 6 of the second, for which 5 bytes of its block were left
-    int[] wanted = {4, 51, 2, 3, 0, 1, 18, 2, 0, 2, 1, 0, 0, 9, 0, -1};
-    for (int what = 0; what < wanted.length; what++) {
-      t.due("has(" + what + ")", t.of.has(what), wanted[what]);
-    }
+    t.has(4, 51, 2, 3, 0, 1, 18, 2, 0, 2, 1, 0, 0, 9, 0, -1);
     t.due("has(-1)", t.of.has(-1), -1);
     t.of.ticks(2);
     t.of.snap();
-    int[] then = {4, 51, 4, 3, 2, 1, 0, 0, 2, 1, 1, 1, 0, 11, 0};
-    for (int what = 0; what < then.length; what++) {
-      t.due("then has(" + what + ")", t.of.has(what), then[what]);
-    }
+    t.has(4, 51, 4, 3, 2, 1, 0, 0, 2, 1, 1, 1, 0, 11, 0);
   }
 
   private static void segments() {
@@ -63,12 +57,9 @@ public final class SightTest {
     t.due("serial, the check being wrong", t.of.segment(0, 0), -1);
     t.due("first, the check being wrong", t.of.segment(0, 1), -1);
 
-    // a head whose check is right, by serial 0 (and number 1: 7, 21, 63, 189, 66) and by serial 258
     int[] image = t.image();
-    int[] zero = {0, 0, 0, 1, Trial.check(7, new int[] {0, 0, 0, 1}, 0, 4)};
-    int[] high = {1, 2, 3, 4, Trial.check(7, new int[] {1, 2, 3, 4}, 0, 4)};
-    System.arraycopy(zero, 0, image, 34, 5);
-    System.arraycopy(high, 0, image, 34 + 64, 5);
+    Trial.head(image, 0, 0, 1);
+    Trial.head(image, 64, 258, 772);
     t.tapeImage(image);
     t.due("on()", t.of.on(), true);
     t.due("serial 0", t.of.segment(0, 0), -1);

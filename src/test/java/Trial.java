@@ -71,6 +71,13 @@ final class Trial {
     tape(image);
   }
 
+  /** What has() answers from 0 on. */
+  void has(int... wanted) {
+    for (int what = 0; what < wanted.length; what++) {
+      due("has(" + what + ")", of.has(what), wanted[what]);
+    }
+  }
+
   /** The bytes of a segment are these from one on. */
   void octets(int segment, int from, int... wanted) {
     for (int i = 0; i < wanted.length; i++) {
