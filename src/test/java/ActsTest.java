@@ -205,6 +205,12 @@ public final class ActsTest {
 
     // a draw that is just the noise flips nothing
     int seed = 0;
+    while (next(seed) / 64 % 100 != 0) {
+      seed++;
+    }
+    t = Trial.told("29 a draw of 0 without noise", BASE);
+    t.of.seed(seed);
+    t.due("chance(1)", t.of.chance(1), 0);
     while (next(seed) / 64 % 100 != 40) {
       seed++;
     }
@@ -388,6 +394,17 @@ public final class ActsTest {
     t.due("has(5), of age 2 at tick 4", t.of.has(5), 1);
     t.of.ticks(1);
     t.due("has(5), of age 3 at tick 5", t.of.has(5), 0);
+
+    t = Trial.told("34 age undone", BASE + "closes age>3;takes 1;put 1 1 size 0;");
+    t.of.ticks(4);
+    t.due("has(5), of age 3 at tick 3", t.of.has(5), 1);
+    t.of.ticks(2);
+    t.of.append(2, 2, 0);
+    t.of.undo();
+    t.of.undo();
+    t.due("has(5)", t.of.has(5), 1);
+    t.of.ticks(1);
+    t.due("has(5), of age 4 at tick 4", t.of.has(5), 0);
   }
 
   private static int[] look(Trial t) {

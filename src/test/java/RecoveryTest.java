@@ -238,7 +238,7 @@ public final class RecoveryTest {
 
   private static void whereItBegins() {
     Trial t = fourHeads("21 the greatest serial of those no greater than the snap", 5, new int[] {300, 301, 299, 302},
-        new int[] {4, 5, 5, 6});
+        new int[] {3, 5, 5, 6});
     recovered(t, 7, 3, 12, 302, 0);
     t.due("value(0)", t.of.value(0), -1);
     t.due("value(1)", t.of.value(1), 501);
@@ -282,19 +282,19 @@ public final class RecoveryTest {
     t.octets(3, 0, 2, 88, 0, 1);
     t.due("segment(3, 3)", t.of.segment(3, 3), 1);
 
-    t = fourHeads("32 giveUp without ground", 4660, new int[] {600, 0, 0, 0}, new int[] {4661, 0, 0, 0});
-    recovered(t, 4660, 0, 5, 0, 1);
+    t = fourHeads("32 giveUp without ground", 4917, new int[] {300, 0, 0, 0}, new int[] {4918, 0, 0, 0});
+    recovered(t, 4917, 0, 5, 0, 1);
     t.due("giveUp()", t.of.giveUp() > 15, true);
-    recovered(t, 4660, 0, 5, 601, 0);
-    t.due("segment(0, 0)", t.of.segment(0, 0), 601);
-    t.due("segment(0, 1)", t.of.segment(0, 1), 4660);
+    recovered(t, 4917, 0, 5, 301, 0);
+    t.due("segment(0, 0)", t.of.segment(0, 0), 301);
+    t.due("segment(0, 1)", t.of.segment(0, 1), 4917);
     t.octets(1, 0, 0, 0, 0, 0, 0);
     t.of.append(1, 1, 16);
     t.of.append(1, 1, 16);
     t.of.ticks(2);
-    t.due("segment(1, 0)", t.of.segment(1, 0), 602);
-    t.due("segment(1, 1)", t.of.segment(1, 1), 4661);
-    t.due("frames of serial 602", t.of.segment(1, 3), 2);
+    t.due("segment(1, 0)", t.of.segment(1, 0), 302);
+    t.due("segment(1, 1)", t.of.segment(1, 1), 4918);
+    t.due("frames of serial 302", t.of.segment(1, 3), 2);
   }
 
   /** Sixteen records on the greatest disk, four a segment: the fourth ends just at the end of its own. */

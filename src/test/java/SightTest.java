@@ -172,6 +172,9 @@ public final class SightTest {
     t.of.append(0, 3, 16);
     t.of.ticks(1);
     t.due("place(0)", t.of.place(0), 1);
+    t.of.undo();
+    t.due("undone", t.of.segment(1, 2), 1);
+    t.of.ticks(1);
     t.due("on its way", t.of.segment(0, 2), 0);
     t.of.ticks(1);
     t.due("on the disk", t.of.segment(0, 2), 0);
@@ -258,6 +261,12 @@ public final class SightTest {
       t.of.snap();
     }
     t.due("has(11)", t.of.has(11), 40);
+    t.of.append(3, 3, 0);
+    t.of.waits(0, 12);
+    t.of.waits(1, 12);
+    t.due("ticks(2)", t.of.ticks(2), 2);
+    t.due("the latest", t.of.kept(39, 1), 1);
+    t.of.undo();
     // of 48 the first 8 are told no more: the first told is of round 1, tick 3, the record of odd waiters
     int[] order = {7, 5, 3, 1, 6, 4, 2, 0};
     for (int k = 0; k < 40; k++) {
