@@ -19,18 +19,27 @@ final class Trial {
 
   /** Lays a text on the tape, which must be empty. */
   void tape(String text) {
+    tape(octets(text));
+  }
+
+  void tape(int... octets) {
+    due("end(" + octets.length + ")", feed(of, octets), true);
+  }
+
+  static int[] octets(String text) {
     int[] octets = new int[text.length()];
     for (int i = 0; i < octets.length; i++) {
       octets[i] = text.charAt(i);
     }
-    tape(octets);
+    return octets;
   }
 
-  void tape(int... octets) {
+  /** Lays bytes on a tape, which must be empty. */
+  static boolean feed(GroupJournal of, int... octets) {
     for (int at = 0; at < octets.length; at += 20) {
       of.feed(word(octets, at), word(octets, at + 4), word(octets, at + 8), word(octets, at + 12), word(octets, at + 16));
     }
-    due("end(" + octets.length + ")", of.end(octets.length), true);
+    return of.end(octets.length);
   }
 
   /** THE CHECK of bytes, from a start on. */
