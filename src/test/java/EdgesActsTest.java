@@ -17,6 +17,7 @@ public final class EdgesActsTest {
     chanceThatCantBe();
     chanceNotBeyond999();
     chanceIsOneAct();
+    chanceByTheTest();
     snapWhenItHasThat();
     snapHaltedOrWithout();
     crashThatCantBe();
@@ -28,6 +29,8 @@ public final class EdgesActsTest {
     undoWhenNoneCanBe();
     undoTheLast20();
     undoEachAct();
+    undoOfReleases();
+    undoOfAges();
     undoKeepsTheSeed();
     noActs();
     seedBelow0();
@@ -266,6 +269,18 @@ public final class EdgesActsTest {
     t.has(2, 32, 0, 1, 0, 1, 0, 0, 0, 1, 0, 0, 0, 1, 0);
   }
 
+  /** 29: TICKS by the seed: a GROUP closes by its TEST. */
+  private static void chanceByTheTest() {
+    Trial t = Trial.told("29: by its TEST", Twins.SMALL + "closes age>1;takes 1;put 1 1 size 0;put 1 1 size 0;");
+    t.of.chance(2);
+    t.due("has(5)", t.of.has(5), 2);
+    t.of.chance(1);
+    t.due("has(5)", t.of.has(5), 0);
+    t.due("has(6)", t.of.has(6), 18);
+    t.of.chance(1);
+    t.due("has(4)", t.of.has(4), 2);
+  }
+
   /** 30: NONE, refused (4), when it has that already. */
   private static void snapWhenItHasThat() {
     Twins.refuses("30: at first", Twins.told(Twins.SMALL + "put 1 1 size 0;"), of -> of.snap(), -1, Twins.DISK);
@@ -418,6 +433,7 @@ public final class EdgesActsTest {
     t.due("flip(0, 0)", t.of.flip(0, 0), 255);
     t.due("flip(0, 1)", t.of.flip(0, 1), 254);
     t.due("flip(3, 127)", t.of.flip(3, 127), 255);
+    t.due("has(10)", t.of.has(10), 3);
     t.due("flip(3, 127)", t.of.flip(3, 127), 0);
     t.due("flip(4, 0)", t.of.flip(4, 0), -1);
     t.due("flip(3, 128)", t.of.flip(3, 128), -1);
@@ -490,6 +506,11 @@ public final class EdgesActsTest {
     undone("waits", Twins::busy, of -> of.waits(5, 4) ? 1 : 0);
     undone("ticks that release", Twins::busy, of -> of.ticks(3));
     undone("ticks", Twins::halted, of -> of.ticks(100));
+    undone("ticks in which another group closes", of -> {
+      Twins.busy(of);
+      of.append(6, 60, 0);
+    }, of -> of.ticks(5));
+
     undone("snap", of -> {
       Twins.busy(of);
       of.ticks(3);
@@ -508,6 +529,52 @@ public final class EdgesActsTest {
     undone("giveUp WITHOUT GROUND", Twins::groundless, of -> of.giveUp());
     undone("flip", Twins::busy, of -> of.flip(1, 31));
     undone("flip back", Twins::halted, of -> of.flip(0, 18));
+  }
+
+  /** 34, 15: a release that was told no more is told again. */
+  private static void undoOfReleases() {
+    Trial t = Trial.told("34: an older release", Twins.SMALL + "closes all;takes 1;");
+    for (int round = 0; round < 5; round++) {
+      int number = t.of.append(1, 1, 0);
+      for (int who = 0; who < 8; who++) {
+        t.of.waits(who, number);
+      }
+      t.of.ticks(2);
+      t.of.snap();
+    }
+    int number = t.of.append(1, 1, 0);
+    for (int who = 7; who > 4; who--) {
+      t.of.waits(who, number);
+    }
+    t.due("ticks(2)", t.of.ticks(2), 3);
+    t.due("kept(0, 1)", t.of.kept(0, 1), 3);
+    t.due("kept(39, 0)", t.of.kept(39, 0), 11);
+    t.due("undo()", t.of.undo(), true);
+    t.due("has(11)", t.of.has(11), 40);
+    for (int k = 0; k < 40; k++) {
+      t.due("kept(" + k + ", 0)", t.of.kept(k, 0), 1 + k / 8 * 2);
+      t.due("kept(" + k + ", 1)", t.of.kept(k, 1), k % 8);
+      t.due("kept(" + k + ", 2)", t.of.kept(k, 2), k / 8);
+    }
+  }
+
+  /** 34, 17: how long the first one has waited, ahead and undone. */
+  private static void undoOfAges() {
+    Trial t = Trial.told("34: how long it has waited", Twins.SMALL + "closes age>3;takes 1;");
+    t.of.ticks(2);
+    t.of.append(1, 1, 0);
+    t.of.ticks(4);
+    t.due("has(5), of age 3 at tick 5", t.of.has(5), 1);
+    t.due("when(0)", t.of.when(0), 2);
+    t.of.ticks(3);
+    t.of.append(2, 2, 0);
+    t.due("has(3)", t.of.has(3), 2);
+    t.of.undo();
+    t.of.undo();
+    t.due("has(2)", t.of.has(2), 6);
+    t.due("when(0)", t.of.when(0), 2);
+    t.of.ticks(1);
+    t.due("has(5), of age 4 at tick 6", t.of.has(5), 0);
   }
 
   /** The act and its undoing leave no trace. */

@@ -21,10 +21,12 @@ public final class EdgesAheadTest {
     bestOfNone();
     roomThatCantBe();
     roomForNone();
+    roomOfEachShape();
     roomNothingThatWaitsLaid();
     recoversThatCantBe();
     flipsOfOthers();
     flipsOfEach();
+    flipsByItself();
     seeRows();
     seeThatIsNoneSuch();
     arrivedOfNone();
@@ -299,6 +301,37 @@ public final class EdgesAheadTest {
     }, of -> of.room(0), 1);
   }
 
+  /** 20: in each shape as many as can be laid, FRAME by FRAME. */
+  private static void roomOfEachShape() {
+    for (int blocks = 2; blocks <= 4; blocks++) {
+      for (int bytes = 16; bytes <= 32; bytes++) {
+        Trial t = Trial.told("20: blocks " + blocks + " bytes " + bytes, "journal 3 blocks " + blocks + " bytes " + bytes + ";");
+        for (int size = 0; size <= 40; size++) {
+          t.due("room(" + size + ")", t.of.room(size), 3 * laid(blocks, bytes, 3 + size));
+        }
+      }
+    }
+  }
+
+  /** How many records of so much payload a segment has room for behind its head. */
+  private static int laid(int blocks, int bytes, int payload) {
+    int at = 5;
+    for (int count = 0; ; count++) {
+      for (int left = payload; left > 0; ) {
+        int ofBlock = bytes - at % bytes;
+        if (ofBlock < 5) {
+          at += ofBlock;
+        }
+        if (at >= blocks * bytes) {
+          return count;
+        }
+        int part = Math.min(left, bytes - at % bytes - 4);
+        at += 4 + part;
+        left -= part;
+      }
+    }
+  }
+
   /** 20: from THE PLACE on, nothing that waits being laid. */
   private static void roomNothingThatWaitsLaid() {
     Twins.Setup waiting = Twins.told(Twins.SMALL + "closes 1=2;" + "put 1 1 size 16;".repeat(3));
@@ -350,7 +383,7 @@ public final class EdgesAheadTest {
 
   /** 22: Of all bytes of all SEGMENTS, each one FLIPPED alone, and CRASHED by 0 then. */
   private static void flipsOfEach() {
-    Twins.Setup[] setups = {Twins::busy, Twins::halted, Twins::groundless, Twins.told(Twins.SMALL)};
+    Twins.Setup[] setups = {Twins::busy, Twins::halted, Twins::groundless, EdgesAheadTest::withoutASnap, Twins.told(Twins.SMALL)};
     for (Twins.Setup setup : setups) {
       Trial t = new Trial("22: each one");
       setup.on(t.of);
@@ -371,6 +404,23 @@ public final class EdgesAheadTest {
     Twins.looks("22: all of the greatest", Twins.told(Twins.GREAT), of -> of.flips(2), 512 - 5);
     // it is DAMAGED without: one flip back heals it, each of the 7 bytes of the record behind leaves a torn tail
     Twins.looks("22: HALTED", Twins::halted, of -> of.flips(2), 8);
+  }
+
+  /** Two records of 7 bytes, 4 bytes left over between them, none below the SNAP. */
+  private static void withoutASnap(GroupJournal of) {
+    Twins.tell(of, Twins.SMALL + "closes all;takes 1;put 1 5 size 0;put 2 300 size 0;");
+    of.ticks(2);
+  }
+
+  /** 22: the next number less than without: whatever was asked ahead of it. */
+  private static void flipsByItself() {
+    int[] wanted = {12, 7, 45};
+    for (int what = 0; what < 3; what++) {
+      int asked = what;
+      Twins.looks("22: the second record lost", EdgesAheadTest::withoutASnap, of -> of.flips(asked), wanted[what]);
+      Twins.looks("22: asked of another crash", Twins::busy, of -> of.recovers(20, 0) == 4 ? of.flips(asked) : -9,
+          what == 0 ? 19 : what == 1 ? 0 : 45);
+    }
   }
 
   private static int[] rows(int count, int... row) {
@@ -394,6 +444,11 @@ public final class EdgesAheadTest {
       t.due("status(1)", t.of.status(1), 0);
       t.due("has(13), no act", t.of.has(13), 10);
     }
+    int[] last = rows(16, 9, 3, 232);
+    last[45] = 3;
+    last[46] = 0;
+    last[47] = 30;
+    Twins.looks("23: the last of 16 rows", seen(last), of -> of.arrived(-1), 14);
     Trial t = new Trial("23: what is SEEN, not what was");
     Twins.busy(t.of);
     Twins.lay(t.of, rows(1, 1, 0, 11));
@@ -487,6 +542,17 @@ public final class EdgesAheadTest {
     t.of.ticks(1);
     t.due("tells(0)", t.of.tells(0), 0);
     t.due("tells(1)", t.of.tells(1), 7);
+    for (int key : new int[] {0, 1, 14, 15}) {
+      for (int value : new int[] {0, 1, 998, 999}) {
+        t = Trial.told("25: most by " + value + " of " + key, Twins.SMALL + "closes all;takes 2;put " + key + " " + value
+            + " size 0;put 7 5 size 0;");
+        t.of.ticks(1);
+        // a last byte that is 0 is there before it arrives
+        int without = value == 0 ? key == 0 ? 4 : 5 : 7;
+        t.due("tells(0)", t.of.tells(0), key);
+        t.due("tells(1)", t.of.tells(1), 19 - without);
+      }
+    }
     t = Trial.told("25: like ones", Twins.SMALL + "closes all;takes 2;put 6 1 size 0;put 5 1 size 0;put 6 2 size 0;");
     t.of.ticks(1);
     // by 6: 7 without, 18 by 1, 1 by 2; by 5: 18 without

@@ -5,6 +5,7 @@ public final class EdgesDiskTest {
     checkModulo251();
     payloadModulo256();
     fewerThan5BytesOfABlock();
+    fewerThan5BytesInTheNextSegment();
     asMuchAsItsBlockHasRoomFor();
     inOneSegment();
     bytesThereStayAsTheyAre();
@@ -22,6 +23,7 @@ public final class EdgesDiskTest {
     aTickLess();
     acknowledgedInTheirOrder();
     closesInTheSameTick();
+    whatWaitsBehindIt();
     ifNoneAreOnTheirWayAndSomeWait();
     ifThereIsRoom();
     releasedInTheirOrder();
@@ -131,6 +133,21 @@ public final class EdgesDiskTest {
       }
       t.due("has(10), of what is left", t.of.has(10), left < 7 ? 0 : left - 7);
     }
+  }
+
+  /** II: these are 0, in whichever SEGMENT they are. */
+  private static void fewerThan5BytesInTheNextSegment() {
+    Trial t = told("II: left over in the next segment", "journal 4 blocks 2 bytes 16;", "put 1 1 size 16;".repeat(3) + "put 1 1 size 0;");
+    t.of.ticks(2);
+    for (int at = 12; at < 16; at++) {
+      t.of.flip(3, at);
+      t.of.flip(0, at);
+    }
+    t.of.append(1, 1, 0);
+    t.of.ticks(2);
+    t.octets(3, 12, 0, 0, 0, 0);
+    t.due("has(10)", t.of.has(10), 4);
+    t.due("frame(3, 1, 0)", t.of.frame(3, 1, 0), 16);
   }
 
   /** II: a FRAME has as much payload as its BLOCK has room for; KIND 1 the only one, 2 the first, 3 one between, 4 the last. */
@@ -349,6 +366,10 @@ public final class EdgesDiskTest {
     t = new Picture().snap(0).head(0, 1, 0).record(0, 5, 1, 1, 1).head(1, 2, 1).on("II: number 0");
     place(t, 1, 5, 2);
     free(t, 0, 0);
+    t = new Picture(4, 2, 16).head(3, 1, 0).record(3, 5, 1, 1, 1).head(2, 2, 1).record(2, 5, 2, 1, 1).head(1, 3, 2)
+        .record(1, 5, 3, 1, 1).head(0, 4, 3).on("II: read in all four");
+    place(t, 0, 5, 4);
+    free(t, 0, 0, 0, 0);
     t = new Picture().snap(0).head(0, 1, 0).head(1, 2, 0).on("II: no record lies there");
     place(t, 1, 5, 2);
     free(t, 1, 0);
@@ -505,6 +526,29 @@ public final class EdgesDiskTest {
     t.due("has(5)", t.of.has(5), 1);
   }
 
+  /** II: APPENDED a RECORD waits, behind all that wait: what is on its way ahead of it leaves it as it is. */
+  private static void whatWaitsBehindIt() {
+    Trial t = Trial.told("II: behind what is on its way", Twins.GREAT + "closes tick=0 or age>3;takes 3;put 1 1 size 0;put 2 2 size 0;");
+    t.of.ticks(2);
+    t.of.append(3, 30, 4);
+    t.of.ticks(1);
+    t.of.append(5, 50, 6);
+    for (int tick = 3; tick <= 5; tick++) {
+      int[] wanted = {2, 3, 30, 4, 3, 5, 50, 6};
+      for (int what = 0; what < 8; what++) {
+        t.due("waiting(" + what / 4 + ", " + what % 4 + ")", t.of.waiting(what / 4, what % 4), wanted[what]);
+      }
+      t.due("has(6) at tick " + tick, t.of.has(6), tick == 3 ? 14 : 0);
+      t.of.ticks(1);
+    }
+    t.due("has(5), the first of them being 4 ticks old at tick 6", t.of.has(5), 2);
+    t.of.ticks(1);
+    t.due("has(5)", t.of.has(5), 0);
+    t.of.ticks(3);
+    t.due("value(3)", t.of.value(3), 30);
+    t.due("value(5)", t.of.value(5), 50);
+  }
+
   /** II: if none are on their way, some wait, and the TEST of closes holds, the GROUP closes. */
   private static void ifNoneAreOnTheirWayAndSomeWait() {
     Trial t = told("II: none wait", Twins.SMALL, "");
@@ -585,6 +629,9 @@ public final class EdgesDiskTest {
       t.due("chance(1)", t.of.chance(1), row[2]);
       t.due("has(10)", t.of.has(10), row[2]);
     }
+    Trial t = Trial.told("II: without noise, draw 0", Twins.SMALL);
+    t.of.seed(seedOf(0));
+    t.due("chance(1)", t.of.chance(1), 0);
   }
 
   /** II: a DRAW of the SEGMENTS, a DRAW of the bytes of one; floor(x / 64) mod m, mod 2 to the 31. */

@@ -215,6 +215,14 @@ public final class EdgesQuestionTest {
     answers("IV: key 9999", two, "most value 9999", 0);
     answers("IV: key -1", two, "most value (0-1)", 0);
     answers("IV: for each segment", two, "total value 15", 1998);
+    Twins.Setup flipped = of -> {
+      two.on(of);
+      of.flip(0, 0);
+      of.flip(1, 0);
+    };
+    answers("IV: key 16, byte 0 being none", flipped, "most value 16", 0);
+    answers("IV: key -1", flipped, "most value (0-1)", 0);
+    answers("IV: byte -1, key 15 being none", flipped, "most octet (0-1)", 0);
   }
 
   /** IV: tick. */

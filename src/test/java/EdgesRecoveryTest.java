@@ -272,7 +272,9 @@ public final class EdgesRecoveryTest {
         t.due("value(" + key + ")", t.of.value(key), key < 3 && key >= snap ? key : 100 + key);
       }
     }
-    Trial t = one().record(0, 5, 1, 7, 1).record(0, 16, 1, 7, 2).on("II: the later one");
+    Trial t = one().frame(0, 5, 1, 1, 6, 1, 1, 99, 98).on("II: whatever the bytes of its SIZE are");
+    t.due("value(6)", t.of.value(6), 257);
+    t = one().record(0, 5, 1, 7, 1).record(0, 16, 1, 7, 2).on("II: the later one");
     t.due("value(7)", t.of.value(7), 2);
     t.due("recovers(0, 4)", t.of.recovers(0, 4), 1);
   }
@@ -322,6 +324,15 @@ public final class EdgesRecoveryTest {
     recovered(picture.head(1, 5, 1).head(2, 6, 1).head(3, 4, 1).on("II: the greatest"), 1, 2, 5, 6, 0);
     recovered(picture.head(1, 5, 1).head(2, 6, 1).head(3, 6, 1).on("II: of like ones the first"), 1, 2, 5, 6, 0);
     recovered(picture.head(1, 6, 1).head(2, 6, 1).head(3, 6, 1).on("II: of like ones the first"), 1, 1, 5, 6, 0);
+    Picture told = new Picture(4, 2, 16).head(0, 1, 0).record(0, 5, 1, 1, 1);
+    for (int segment = 1; segment < 4; segment++) {
+      told.head(segment, 4 + segment % 3, 1).record(segment, 5, 4 + segment % 3, segment, segment);
+    }
+    // serials 5, 6, 4 of one number, a record each: 4 and 5 are left out
+    recovered(told.on("II: the others are left out"), 2, 2, 12, 6, 0);
+    told = new Picture(4, 2, 16).head(3, 1, 0).record(3, 5, 1, 1, 1).head(0, 9, 1).record(0, 5, 9, 1, 1).head(1, 8, 1)
+        .record(1, 5, 8, 1, 1).head(2, 7, 1).record(2, 5, 7, 1, 1);
+    recovered(told.on("II: the first is the greatest"), 2, 0, 12, 9, 0);
     picture = new Picture(4, 2, 16).head(3, 1, 0).record(3, 5, 1, 3, 3).head(0, 2, 1).record(0, 5, 2, 0, 0).head(2, 3, 2)
         .record(2, 5, 3, 2, 2).head(1, 4, 3).record(1, 5, 4, 1, 1);
     Trial t = picture.on("II: all four");
@@ -529,25 +540,25 @@ public final class EdgesRecoveryTest {
 
   /** II: WITHOUT GROUND all bytes become 0, SEGMENT 0 is OPENED with the next number. */
   private static void givenUpWithoutGround() {
-    Picture picture = new Picture(4, 2, 16).snap(258).value(2, 7).head(1, 700, 300).octet(2, 31, 1).octet(3, 0, 1, 2, 3, 4, 5);
+    Picture picture = new Picture(4, 2, 16).snap(259).value(2, 7).head(1, 956, 300).octet(2, 31, 1).octet(3, 0, 1, 2, 3, 4, 5);
     Trial t = picture.on("II: GIVEN UP WITHOUT GROUND");
-    recovered(t, 258, 0, 5, 0, 1);
+    recovered(t, 259, 0, 5, 0, 1);
     int count = 0;
     for (int at = 0; at < 128; at++) {
       count += t.of.octetOf(at / 32, at % 32) != 0 ? 1 : 0;
     }
     t.due("giveUp()", t.of.giveUp(), count);
-    recovered(t, 258, 0, 5, 701, 0);
-    t.octets(0, 0, 2, 189, 1, 2, Trial.check(7, new int[] {2, 189, 1, 2}, 0, 4));
+    recovered(t, 259, 0, 5, 957, 0);
+    t.octets(0, 0, 3, 189, 1, 3, Trial.check(7, new int[] {3, 189, 1, 3}, 0, 4));
     for (int at = 5; at < 128; at++) {
       t.due("byte " + at, t.of.octetOf(at / 32, at % 32), 0);
     }
     t.due("value(2)", t.of.value(2), 7);
-    t.due("append", t.of.append(2, 8, 16), 258);
+    t.due("append", t.of.append(2, 8, 16), 259);
     t.of.append(2, 9, 16);
     t.of.ticks(2);
-    t.due("segment(1, 0)", t.of.segment(1, 0), 702);
-    t.due("crash(0)", t.of.crash(0), 260);
+    t.due("segment(1, 0)", t.of.segment(1, 0), 958);
+    t.due("crash(0)", t.of.crash(0), 261);
     t.due("value(2)", t.of.value(2), 9);
   }
 

@@ -54,12 +54,17 @@ public final class EdgesSightTest {
     }
     t.of.ticks(1);
     for (int i = 0; i < 16; i++) {
-      t.of.append(1, 1, 0);
+      t.of.append(1, 100 + i, 0);
     }
     Twins.lay(t.of, new int[48]);
     t.of.see();
     // four records a segment, of 27, 27, 5 + 26 and 6 + 25 bytes, and three heads
     t.has(4, 128, 1, 32, 0, 16, 4 * 116 + 3 * 5, 99, 0, 8, 0, 0, 16, 20, 0);
+    for (int k = 0; k < 16; k++) {
+      t.due("waiting(" + k + ", 0), behind as many on their way", t.of.waiting(k, 0), 16 + k);
+      t.due("waiting(" + k + ", 2)", t.of.waiting(k, 2), 100 + k);
+    }
+    t.due("soon(1)", t.of.soon(1), 115);
     t.of.ticks(98);
     t.due("has(7)", t.of.has(7), 1);
     t.of.ticks(1);

@@ -9,6 +9,7 @@ public final class EdgesTapeTest {
     journalWithoutAStatement();
     journalWithAFault();
     journalAnew();
+    journalOfWhatIsTold();
     journalKeepsTheSeed();
     faultOfTheLatest();
     faultOfOthers();
@@ -176,6 +177,33 @@ public final class EdgesTapeTest {
       t.of.ticks(6);
     }
     return t.of.segment(1, 0);
+  }
+
+  /** 4: and as told: nothing of a text before it, nor of one with a fault. */
+  private static void journalOfWhatIsTold() {
+    String full = Twins.SMALL + "noise 100;closes all;takes 9;put 1 1 size 0;put 1 2 size 0;";
+    Trial t = Trial.told("4: as told", full);
+    for (int times = 0; times < 3; times++) {
+      Twins.lay(t.of, Twins.SMALL + "noise 1;put 7 7 size 7;");
+      t.due("journal()", t.of.journal(), 3);
+      t.due("has(3)", t.of.has(3), 1);
+      t.due("soon(1)", t.of.soon(1), -1);
+      Twins.lay(t.of, Twins.SMALL + "put 8 8 size 8;");
+      t.due("journal()", t.of.journal(), 2);
+      t.due("has(3)", t.of.has(3), 1);
+      t.due("soon(7)", t.of.soon(7), -1);
+      t.due("chance(5), without noise", t.of.chance(5), 0);
+      t.due("has(6), without closes", t.of.has(6), 0);
+      t.of.ticks(1);
+      t.due("has(7), without takes", t.of.has(7), 1);
+      Twins.lay(t.of, full);
+      t.due("journal()", t.of.journal(), 6);
+      Twins.lay(t.of, Twins.SMALL + "noise 0;closes 1=2;takes 5;put 9 9 size 9;x");
+      t.due("journal() with a fault", t.of.journal(), -1);
+      t.due("has(3)", t.of.has(3), 2);
+      t.due("chance(1), the noise staying", t.of.chance(1), 1);
+      t.due("has(7), closes and takes staying", t.of.has(7), 9);
+    }
   }
 
   /** 4: the seed stays. */

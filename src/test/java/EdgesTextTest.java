@@ -6,6 +6,7 @@ public final class EdgesTextTest {
 
   public static void main(String[] args) {
     fortyStatements();
+    asLongAsTheTape();
     theFirstAndItAlone();
     segmentsBlocksBytes();
     keysValuesSizes();
@@ -46,6 +47,30 @@ public final class EdgesTextTest {
     Twins.faulty("I: a 41st statement behind blanks", 5, forty + " \n^put 99");
     Twins.faulty("I: the 40th is none", 1, BASE + "noise 0;".repeat(38) + "^x;noise 0;");
     Twins.faulty("I: the 40th does not end", 1, BASE + "noise 0;".repeat(38) + "noise 0^");
+  }
+
+  /** 2, I: a text of 1600 bytes, of which each is one of a FORMULA, again and again. */
+  private static void asLongAsTheTape() {
+    Trial t = new Trial("I: 1600 bytes");
+    String takes = BASE + "put 1 1 size 0;closes all;takes 1";
+    String sum = takes + "+1".repeat(98) + "-0".repeat((1600 - takes.length() - 197) / 2);
+    sum = sum + ";" + " ".repeat(1599 - sum.length());
+    String test = BASE + "closes 1=2" + " or 1=2".repeat(219) + " or 1=1; ";
+    for (int times = 0; times < 3; times++) {
+      t.tape(sum);
+      t.due("journal()", t.of.journal(), 4);
+      t.of.ticks(1);
+      t.due("has(7)", t.of.has(7), 99);
+      t.tape("total 1" + "+1".repeat(796));
+      t.due("ask()", t.of.ask(), 2 * 797);
+      t.tape(test + ONE);
+      t.due("journal()", t.of.journal(), 3);
+      t.of.ticks(1);
+      t.due("has(7)", t.of.has(7), 1);
+    }
+    t.tape("total " + "1*".repeat(796) + "1x");
+    t.due("ask()", t.of.ask(), GroupJournal.NOTHING);
+    t.due("fault(1)", t.of.fault(1), 1599);
   }
 
   /** I: journal N blocks N bytes N (the first STATEMENT, and it alone). */
@@ -304,6 +329,15 @@ public final class EdgesTextTest {
     for (String marked : wrong) {
       Twins.faulty("I: own words", 1, marked);
     }
+    String text = BASE + "put 1 1 size 0;closes not all and tick+records+payload+age+waiters=1 or 1=1;takes min(1,2)+max(1,2);noise 1;";
+    for (int at = 0; at < text.length(); at++) {
+      boolean begins = isPart(text.charAt(at)) && (at == 0 || !isPart(text.charAt(at - 1))) && text.charAt(at) > '9';
+      for (char first : begins ? new char[] {'j', 'z', 'A'} : new char[0]) {
+        if (first != text.charAt(at)) {
+          Twins.faulty("I: a word's first letter", Twins::busy, 1, text.substring(0, at) + "^" + first + text.substring(at + 1));
+        }
+      }
+    }
   }
 
   /** I: Blanks (10, 32) are where one likes (words and numbers side by side need one). */
@@ -425,6 +459,15 @@ public final class EdgesTextTest {
     Twins.faulty("I 4: not till its fact ends", 4, BASE + "closes not not not not not not 1>^(0);");
     Twins.faulty("I 4: not till its fact ends", 4, BASE + "closes not not not not not not ^[all];");
     Twins.stands("I 4: both sides", 2, BASE + "closes not not not not not (1)>(0)and((((((1))))))>((((((0))))));");
+    Trial t = new Trial("I 4: in each text anew");
+    for (int times = 0; times < 3; times++) {
+      t.tape(BASE + "takes ((((((x");
+      t.due("journal() with a fault", t.of.journal(), -1);
+      t.tape(BASE + "takes ((((((1))))));closes [[[[[[all]]]]]];");
+      t.due("journal()", t.of.journal(), 3);
+      t.due("ask() with a fault", t.ask("total ((((((x"), GroupJournal.NOTHING);
+      t.due("ask()", t.ask("total ((((((1))))))"), 2);
+    }
     Twins.faulty("I 4: in each statement anew", 4, BASE + "takes ((((((1))))));closes ((((((^(");
   }
 

@@ -217,7 +217,9 @@ final class Twins {
     pairs(seen, "segment", 2, 4, of::segment);
     pairs(seen, "waiting", 3, 4, of::waiting);
     pairs(seen, "kept", 3, 3, of::kept);
-    pairs(seen, "recovers", 2, 5, of::recovers);
+    for (int k : new int[] {0, 7, 20}) {
+      each(seen, "recovers " + k, 5, what -> of.recovers(k, what));
+    }
     pairs(seen, "later", 3, 3, of::later);
     pairs(seen, "rule", 3, 2, of::rule);
     for (int k = 0; k < 3; k++) {
@@ -240,6 +242,8 @@ final class Twins {
     of.undo();
     seen.put("undo()", of.undo() ? 1L : 0L);
     disk(seen, " behind undo()", of);
+    seen.put("image()", (long) of.image());
+    each(seen, "octet behind image()", 18, k -> of.octet(k));
     return seen;
   }
 
