@@ -12,6 +12,7 @@ public final class EdgesQuestionTest {
     ofItsHead();
     ofItsBytes();
     ofTheTable();
+    ofNumbersBelow0();
     tick();
     kindsOfQuestions();
     unknownWords();
@@ -225,6 +226,31 @@ public final class EdgesQuestionTest {
     answers("IV: byte -1, key 15 being none", flipped, "most octet (0-1)", 0);
   }
 
+  /** IV: 0 without, for each number below 0 and beyond the last. */
+  private static void ofNumbersBelow0() {
+    Twins.Setup full = of -> {
+      Twins.tell(of, Twins.SMALL + "closes all;takes 1;" + "put 15 999 size 0;");
+      of.ticks(7);
+      for (int at = 0; at < 64; at++) {
+        if (of.octetOf(at / 32, at % 32) == 0) {
+          of.flip(at / 32, at % 32);
+        }
+      }
+    };
+    Trial t = new Trial("IV: below 0");
+    full.on(t.of);
+    for (int n = 1; n <= 40; n++) {
+      t.due("value -" + n, t.ask("total value (0-" + n + ")"), 0);
+      t.due("octet -" + n, t.ask("total octet (0-" + n + ")"), 0);
+    }
+    t = new Trial("IV: beyond the last");
+    full.on(t.of);
+    for (int n = 0; n <= 40; n++) {
+      t.due("value " + (16 + n), t.ask("total value " + (16 + n)), 0);
+      t.due("octet " + (32 + n), t.ask("total octet " + (32 + n)), 0);
+    }
+  }
+
   /** IV: tick. */
   private static void tick() {
     answers("IV: tick 0", Twins.told(Twins.SMALL), "most tick", 0);
@@ -269,7 +295,8 @@ public final class EdgesQuestionTest {
   /** IV: what stands behind it, too. */
   private static void whatStandsBehindIt() {
     String[] marked = {"total 1^;", "total 1 ^1", "total 1 ^number", "total 1 ^total 1", "total (1)^)", "total 1^,1", "total 1 \n^\u0000",
-      "first all^;", "first all ^all", "first all ^not all", "first all^]", "first 1>0 ^1", "first 1>0^>0", "first 1>0^and all"};
+      "first all^;", "first all ^all", "first all ^not all", "first all^]", "first 1>0 ^1", "first 1>0^>0", "first 1>0^and all",
+      "first 1 ^or all", "first 1 ^and all", "first not ^or all", "first 1>0 and ^or all", "first 1>0 or ^and all"};
     for (String one : marked) {
       Twins.faultyQuestion("IV 1: behind it", 1, one);
     }
@@ -311,6 +338,9 @@ public final class EdgesQuestionTest {
     Twins.faultyQuestion("IV 4: seven [", 4, "often [[[[[[^[all]]]]]]]");
     answers("IV 4: six not", two, "often not not not not not not all", 2);
     Twins.faultyQuestion("IV 4: seven not", 4, "often not not not not not not ^not all");
+    answers("IV 4: closed ones count no more", two, "total min(1,2)+max(1,2)*min(1,2)+max(1,2)*min(1,2)+min(1,2)+max(1,2)*min(1,2)", 16);
+    answers("IV 4: closed ones count no more", two, "often [all] and [all] and [all] and [all] and [all] and [all] and [all]", 2);
+    answers("IV 4: closed ones count no more", two, "total (1)+(1)+(1)+(1)+(1)+(1)+(1)", 14);
     answers("IV 4: six of all", two, "often not [value octet max((1),2)=0]", 0);
     Twins.faultyQuestion("IV 4: seven of all", 4, "often not [value octet max((1),(^(2");
   }

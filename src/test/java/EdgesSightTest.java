@@ -407,6 +407,7 @@ public final class EdgesSightTest {
     t.of.waits(3, 5);
     t.of.ticks(2);
     t.due("has(11)", t.of.has(11), 40);
+    kept(t, -1, -1, -1, -1);
     kept(t, 0, 1, 1, 0);
     kept(t, 38, 9, 7, 4);
     kept(t, 39, 11, 3, 5);

@@ -372,7 +372,9 @@ public final class EdgesTextTest {
       BASE + "closes not^;", BASE + "closes all and^;", BASE + "closes ^and all;", BASE + "closes 1^!0;", BASE + "takes^;",
       BASE + "takes (^);", BASE + "takes (1^;", BASE + "takes 1^>0;", BASE + "takes ^[1];", BASE + "takes ^+1;", BASE + "takes 1-^-1;",
       BASE + "takes min^;", BASE + "takes min(^,1);", BASE + "takes min(1^);", BASE + "takes min(1,^);", BASE + "takes min(1,2^,3);",
-      BASE + "takes max^[1,2];", BASE + "takes 1^%1;", BASE + "takes ^not 1;", BASE + "takes ^all;", BASE + "takes 2^(1);", BASE + "^1"};
+      BASE + "takes max^[1,2];", BASE + "takes 1^%1;", BASE + "takes ^not 1;", BASE + "takes ^all;", BASE + "takes 2^(1);", BASE + "^1",
+      BASE + "closes 1 ^or all;", BASE + "closes 1 ^and all;", BASE + "closes not ^or all;", BASE + "closes all and ^or all;",
+      BASE + "closes all or ^and all;", BASE + "takes (^+1);", BASE + "takes 1+^/1;"};
     for (String one : marked) {
       Twins.faulty("I 1", 1, one);
     }
@@ -453,6 +455,8 @@ public final class EdgesTextTest {
     Twins.faulty("I 4: seven of all", 4, BASE + "closes [[[[((1))>0 and not not ^not all");
     Twins.stands("I 4: closed ones count no more", 3, BASE + "takes ((((((1))))))+((((((2))))))*min(((((1)))),(((((2))))));"
         + "closes [[[[[[all]]]]]]or[[[[[[all]]]]]];");
+    Twins.stands("I 4: closed ones count no more", 3, BASE + "takes min(1,2)+max(1,2)+min(1,2)*max(1,2)/min(1,2)-max(1,2)+min(1,2)+max(1,2);"
+        + "closes not all and not all and not all and not all and not all and not all and not all and not all;");
     Twins.stands("I 4: not until its fact ends", 2, BASE
         + "closes not not not not not not all and not not not not not not 1>0 or [[[[[[1>0 and all]]]]]];");
     Twins.faulty("I 4: not till its fact ends", 4, BASE + "closes not not not not not not ^(1)>0;");
