@@ -306,7 +306,6 @@ public final class ActsTest {
     t.of.append(2, 2, 2);
     int[] appended = look(t);
     t.of.waits(5, 0);
-    int[] waits = look(t);
     t.of.ticks(2);
     int[] ticked = look(t);
     t.of.snap();
@@ -322,7 +321,7 @@ public final class ActsTest {
     t.of.giveUp();
     t.due("place(2), serial 2 having been lost", t.of.place(2), 3);
     t.due("has(13)", t.of.has(13), 9);
-    int[][] steps = {crashed, null, null, null, snapped, ticked, waits, appended, before};
+    int[][] steps = {crashed, null, null, null, snapped, ticked, null, appended, before};
     for (int[] step : steps) {
       t.due("undo()", t.of.undo(), true);
       if (step != null) {
@@ -408,7 +407,7 @@ public final class ActsTest {
   }
 
   private static int[] look(Trial t) {
-    int[] found = new int[15 + 3 + 16 + 8 + 64 + 3];
+    int[] found = new int[15 + 3 + 16 + 8 + 2 + 3];
     int at = 0;
     for (int i = 0; i < 15; i++) {
       found[at++] = t.of.has(i);
@@ -422,9 +421,9 @@ public final class ActsTest {
     for (int i = 0; i < 8; i++) {
       found[at++] = t.of.waiter(i);
     }
-    for (int i = 0; i < 64; i++) {
-      found[at++] = t.of.octetOf(i / 32, i % 32);
-    }
+    // the last byte of an image tells whether any of its bytes is another one
+    found[at++] = t.of.image();
+    found[at++] = t.of.octet(found[at - 2] - 1);
     found[at++] = t.of.kept(0, 1);
     found[at++] = t.of.recovers(0, 4);
     found[at++] = t.of.segment(1, 2);

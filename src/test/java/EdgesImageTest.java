@@ -104,25 +104,28 @@ public final class EdgesImageTest {
     }
     t = Trial.told("37: the last byte of the greatest", Twins.GREAT);
     t.of.flip(3, 127);
-    image = image(t.of);
-    t.due("octet(545)", image[545], 255);
-    t.due("octet(544)", image[544], 0);
-    t.due("octet(34 + 128)", image[162], 0);
+    t.of.flip(1, 0);
+    t.due("image()", t.of.image(), 547);
+    t.due("octet(545)", t.of.octet(545), 255);
+    t.due("octet(544)", t.of.octet(544), 0);
+    t.due("octet(34 + 127)", t.of.octet(161), 0);
+    t.due("octet(34 + 128)", t.of.octet(162), 255);
   }
 
   /** An image: last a byte: all ahead from 139 on, c = (3 c + it) mod 251. */
   private static void imageCheck() {
-    Trial t = Trial.told("37: the last byte", Twins.SMALL);
-    for (int at = 0; at < 4; at++) {
+    for (int at : new int[] {0, 31, 32, 63}) {
+      Trial t = Trial.told("37: the last byte, byte " + at + " being flipped", Twins.SMALL);
+      t.of.flip(at / 32, at % 32);
       int[] image = image(t.of);
       t.due("octet(98)", image[98], Trial.check(139, image, 0, 98));
-      t.of.flip(at % 2, 31 * (at / 2));
     }
     // the byte ahead of it makes it what one likes
     for (int wanted : new int[] {0, 1, 249, 250}) {
       int[] image = changed();
       image[97] = (wanted - Trial.check(139, image, 0, 97) * 3 % 251 + 251) % 251;
       image[98] = wanted;
+      Trial t = new Trial("37: the last byte is " + wanted);
       Twins.busy(t.of);
       Twins.lay(t.of, image);
       t.due("on(), the last byte being " + wanted, t.of.on(), true);

@@ -2,6 +2,7 @@
 public final class EdgesTapeTest {
   public static void main(String[] args) {
     newObject();
+    the512thCall();
     feedTo1600();
     feedHighestFirst();
     endOfWhatIsThere();
@@ -43,6 +44,28 @@ public final class EdgesTapeTest {
     t.due("NONE", GroupJournal.NONE, -1);
     t.due("NOTHING", GroupJournal.NOTHING, -1000000000000000L);
     t.due("nothing on the tape: end(1)", t.of.end(1), false);
+  }
+
+  /** An object is used for at most 512 calls: the last of them answers as the first one. */
+  private static void the512thCall() {
+    Trial t = Trial.told("the 512th call", Twins.GREAT + "closes all;takes 9;noise 100;" + "put 1 1 size 0;".repeat(3));
+    // 102 bytes come onto the tape: 6 calls of feed, end, journal
+    int calls = 6 + 1 + 1;
+    for (; calls < 500; calls++) {
+      t.due("flip", t.of.flip(1, calls % 128), calls < 128 + 8 || calls >= 256 + 8 && calls < 384 + 8 ? 255 : 0);
+    }
+    t.due("ticks(100)", t.of.ticks(100), 0);
+    t.due("chance(100)", t.of.chance(100), 100);
+    t.due("has(4)", t.of.has(4), 3);
+    t.due("undo()", t.of.undo(), true);
+    t.due("undo()", t.of.undo(), true);
+    t.due("has(2)", t.of.has(2), 0);
+    t.due("has(4)", t.of.has(4), 0);
+    t.due("when(2)", t.of.when(2), 10);
+    t.due("best(1)", t.of.best(1), 30);
+    t.due("room(40)", t.of.room(40), 8);
+    t.due("image()", t.of.image(), 547);
+    t.due("has(13), the 512th", t.of.has(13), 18);
   }
 
   private static Twins.Setup fed(int octets) {

@@ -56,17 +56,20 @@ public final class EdgesTextTest {
     String sum = takes + "+1".repeat(98) + "-0".repeat((1600 - takes.length() - 197) / 2);
     sum = sum + ";" + " ".repeat(1599 - sum.length());
     String test = BASE + "closes 1=2" + " or 1=2".repeat(219) + " or 1=1; ";
-    for (int times = 0; times < 3; times++) {
+    for (int times = 0; times < 2; times++) {
       t.tape(sum);
       t.due("journal()", t.of.journal(), 4);
       t.of.ticks(1);
       t.due("has(7)", t.of.has(7), 99);
-      t.tape("total 1" + "+1".repeat(796));
-      t.due("ask()", t.of.ask(), 2 * 797);
       t.tape(test + ONE);
       t.due("journal()", t.of.journal(), 3);
       t.of.ticks(1);
       t.due("has(7)", t.of.has(7), 1);
+    }
+    t = Trial.told("IV: 1600 bytes", BASE);
+    for (int times = 0; times < 3; times++) {
+      t.tape("total 1" + "+1".repeat(796));
+      t.due("ask()", t.of.ask(), 2 * 797);
     }
     t.tape("total " + "1*".repeat(796) + "1x");
     t.due("ask()", t.of.ask(), GroupJournal.NOTHING);

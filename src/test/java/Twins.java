@@ -204,7 +204,7 @@ final class Twins {
     }
   }
 
-  // ---- all that can be seen of a journal of two segments, in fewer than 450 calls
+  // ---- what can be seen of a journal of two segments, in so few calls that an object is called 512 times at most
 
   private static Map<String, Long> look(GroupJournal of) {
     Map<String, Long> seen = new LinkedHashMap<>();
@@ -241,9 +241,12 @@ final class Twins {
     disk(seen, " behind chance(3)", of);
     of.undo();
     seen.put("undo()", of.undo() ? 1L : 0L);
-    disk(seen, " behind undo()", of);
+    each(seen, "has behind undo()", 15, of::has);
+    each(seen, "value behind undo()", 6, of::value);
+    // the last byte of an image tells whether any of its bytes is another one
     seen.put("image()", (long) of.image());
-    each(seen, "octet behind image()", 18, k -> of.octet(k));
+    each(seen, "octet behind image()", 18, of::octet);
+    seen.put("octet(98) behind image()", (long) of.octet(98));
     return seen;
   }
 
