@@ -66,6 +66,13 @@ public final class EdgesTextTest {
       t.of.ticks(1);
       t.due("has(7)", t.of.has(7), 1);
     }
+    t = Trial.told("I: without takes, behind the longest one", BASE + "takes 1" + "+1".repeat(782) + ";");
+    for (int times = 0; times < 20; times++) {
+      t.tape(BASE + "closes all;put 1 1 size 13;");
+      t.due("journal()", t.of.journal(), 3);
+      t.of.ticks(1);
+      t.due("has(7)", t.of.has(7), 2);
+    }
     t = Trial.told("IV: 1600 bytes", BASE);
     for (int times = 0; times < 3; times++) {
       t.tape("total 1" + "+1".repeat(796));
