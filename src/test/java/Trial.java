@@ -99,7 +99,7 @@ final class Trial {
     return of.ask();
   }
 
-  private static int word(int[] octets, int at) {
+  static int word(int[] octets, int at) {
     int word = 0;
     for (int i = 0; i < 4; i++) {
       word = word << 8 | (at + i < octets.length ? octets[at + i] & 255 : 32);
