@@ -506,8 +506,9 @@ public final class GroupJournal {
     }
     pastCount--;
     pastNext = (pastNext + ACTS - 1) % ACTS;
-    if (pastNext >= 0 && pastNext < past.length) {
-      now.copyFrom(past[pastNext]);
+    State before = pastAt(pastNext);
+    if (before != null) {
+      now.copyFrom(before);
     }
     return true;
   }
@@ -627,9 +628,14 @@ public final class GroupJournal {
     }
   }
 
+  private State pastAt(int at) {
+    return at >= 0 && at < past.length ? past[at] : null;
+  }
+
   private void remember() {
-    if (pastNext >= 0 && pastNext < past.length) {
-      past[pastNext].copyFrom(now);
+    State slot = pastAt(pastNext);
+    if (slot != null) {
+      slot.copyFrom(now);
     }
     pastNext = (pastNext + 1) % ACTS;
     pastCount = Math.min(ACTS, pastCount + 1);
@@ -1379,7 +1385,7 @@ public final class GroupJournal {
         return NONE;
       }
       int address = segment * size + at;
-      return address < bytes.length ? bytes[address] : NONE;
+      return address >= 0 && address < bytes.length ? bytes[address] : NONE;
     }
 
     int scarCount() {
@@ -1696,7 +1702,7 @@ public final class GroupJournal {
     }
 
     void add(int address, int octet) {
-      if (count < addresses.length && count < octets.length) {
+      if (count >= 0 && count < addresses.length && count < octets.length) {
         addresses[count] = address;
         octets[count] = octet;
         count++;
